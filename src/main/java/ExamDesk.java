@@ -694,7 +694,7 @@ public final class ExamDesk {
             return those;
         }
 
-        /** Who is still free behind that. Who can't be spared for one place can't be for the next. */
+        /** Who is free behind that. Who can't be spared for one place can't be for the next. */
         private int staffRoom(int session, int room, int freeAtFirst) {
             int free = freeAtFirst;
             for (int i = 0; i < INVIGILATORS && missing[room] > 0; i++) {
@@ -711,7 +711,7 @@ public final class ExamDesk {
             return free;
         }
 
-        /** By Hall's theorem: places can be filled if any rooms together find as many as they miss. */
+        /** By Hall's theorem: enough, if any rooms together find as many as they miss. */
         private boolean areEnough(int free) {
             for (int group = 1; group < (1 << ROOMS); group++) {
                 int those = 0;
