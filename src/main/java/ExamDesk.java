@@ -470,7 +470,7 @@ public final class ExamDesk {
         private void useSession(int session, int fitting) {
             // Downwards, as sets only grow: each one's cost is still that of the sessions before.
             for (int placed = held; placed >= 0; placed--) {
-                if (best[placed] + ONE_SESSION <= best[held]) {
+                if (best[placed] + ONE_SESSION < best[held]) {
                     addMeetings(placed, session, fitting & ~placed & papersReady(placed));
                 }
             }

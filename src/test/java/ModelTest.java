@@ -220,6 +220,16 @@ public final class ModelTest {
         }
     }
 
+    /** Some leave, some seats are blocked or not, and those without a seat look for one. */
+    private void moveSome(int session) {
+        for (int n = 0; n < 4; n++) {
+            leave(below(40), session);
+        }
+        block(below(4), below(4), below(4), coin());
+        seat(session);
+        who(session, below(4), below(4), below(4));
+    }
+
     private void lookRound() {
         plan();
         strain();
@@ -230,8 +240,11 @@ public final class ModelTest {
             seat(s);
             watch(s);
         }
-        for (int n = 0; n < 20; n++) {
+        for (int n = 0; n < 10; n++) {
             deskCall();
+        }
+        for (int n = 0; n < 3; n++) {
+            moveSome(below(6));
         }
         for (int s = 0; s < 6; s++) {
             watch(s);

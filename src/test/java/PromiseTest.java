@@ -27,6 +27,7 @@ public final class PromiseTest {
         block();
         seat();
         seatByKind();
+        seatBesideOne();
         leave();
         where();
         who();
@@ -612,6 +613,48 @@ public final class PromiseTest {
         CHECKS.due("a whole room", 0, () -> rows.seat(0));
         CHECKS.due("first row", 4, () -> rows.where(2, 0));
         CHECKS.due("second row", 11, () -> rows.where(6, 0));
+    }
+
+    /** One sits somewhere round the middle seat of nine; who may take that then? */
+    private static void seatBesideOne() {
+        for (int seat = 0; seat < 9; seat++) {
+            int row = seat / 3;
+            int column = seat % 3;
+            int away = Math.abs(row - 1) + Math.abs(column - 1);
+            if (away == 0) {
+                continue;
+            }
+            ExamDesk d = roomOfNine();
+            d.block(1, row, column, false);
+            d.plan();
+            CHECKS.due("one seat for three", 2, () -> d.seat(0));
+            CHECKS.due("the first has it", 100 + 10 * row + column, () -> d.where(0, 0));
+            d.block(1, 1, 1, false);
+            CHECKS.due("two seats for three", 1, () -> d.seat(0));
+            CHECKS.due("the middle one beside " + seat, away == 1 ? 2 : 1, () -> d.who(0, 1, 1, 1));
+            d.leave(0, 0);
+            d.leave(1, 0);
+            d.leave(2, 0);
+            d.block(1, row, column, true);
+            CHECKS.due("the middle seat alone", 2, () -> d.seat(0));
+            CHECKS.due("nobody is beside it now", 0, () -> d.who(0, 1, 1, 1));
+        }
+    }
+
+    /** All its seats are blocked; 0 and 1 write the same, 2 another paper. */
+    private static ExamDesk roomOfNine() {
+        ExamDesk d = new ExamDesk();
+        d.session(0, 10);
+        d.paper(0, 10);
+        d.paper(1, 10);
+        d.enrol(0, 0, true);
+        d.enrol(1, 0, true);
+        d.enrol(2, 1, true);
+        d.room(1, 3, 3, false);
+        for (int seat = 0; seat < 9; seat++) {
+            d.block(1, seat / 3, seat % 3, true);
+        }
+        return d;
     }
 
     private static void leave() {
