@@ -42,54 +42,6 @@ public final class PromiseTest {
         CHECKS.finish("PromiseTest");
     }
 
-    /** Papers 0 and 1 of an hour, two sessions, a room of 2 by 3 and one for extra time of 1 by 2. */
-    private static ExamDesk office() {
-        ExamDesk d = new ExamDesk();
-        d.paper(0, 60);
-        d.paper(1, 60);
-        d.session(2, 60);
-        d.session(3, 60);
-        d.room(0, 2, 3, false);
-        d.room(2, 1, 2, true);
-        d.most(4, 6);
-        d.most(7, 6);
-        d.enrol(10, 0, true);
-        d.enrol(11, 0, true);
-        d.enrol(12, 1, true);
-        d.enrol(13, 0, true);
-        d.extra(13, true);
-        return d;
-    }
-
-    /** An office with a plan of one session, 2, where all sit and all is watched. */
-    private static ExamDesk busyOffice() {
-        ExamDesk d = office();
-        d.plan();
-        d.seat(2);
-        d.watch(2);
-        return d;
-    }
-
-    private static void busy(String what, ExamDesk d) {
-        CHECKS.due(what + ": the plan stays", 1, () -> d.count(2));
-        CHECKS.due(what + ": the plan's session stays", 2, () -> d.planned(0));
-        CHECKS.due(what + ": seats stay", 4, () -> d.count(3));
-        CHECKS.due(what + ": a seat stays", 1, () -> d.where(12, 2));
-        CHECKS.due(what + ": watches stay", 2, () -> d.count(4));
-        CHECKS.due(what + ": a watch stays", 7, () -> d.watcher(2, 2, 0));
-    }
-
-    private static void allGone(String what, ExamDesk d) {
-        CHECKS.due(what + ": no session is used", 0, () -> d.count(2));
-        CHECKS.due(what + ": no plan", NONE, () -> d.planned(0));
-        CHECKS.illState(what + ": no plan to seat by", () -> d.seat(2));
-        CHECKS.due(what + ": no seats", 0, () -> d.count(3));
-        CHECKS.due(what + ": no seat of one", NONE, () -> d.where(12, 2));
-        CHECKS.due(what + ": nobody on a seat", NONE, () -> d.who(2, 0, 0, 1));
-        CHECKS.due(what + ": no watches", 0, () -> d.count(4));
-        CHECKS.due(what + ": no watch", NONE, () -> d.watcher(2, 2, 0));
-    }
-
     private static void newObject() {
         ExamDesk d = new ExamDesk();
         for (int what = 0; what < 5; what++) {
@@ -127,70 +79,70 @@ public final class PromiseTest {
     }
 
     private static void paper() {
-        ExamDesk d = busyOffice();
+        ExamDesk d = Desks.busyOffice();
         CHECKS.missing("paper -1", () -> d.paper(-1, 60));
         CHECKS.missing("paper 9", () -> d.paper(9, 60));
         CHECKS.missing("paper 9, and wrong minutes", () -> d.paper(9, 301));
         CHECKS.missing("a far paper", () -> d.paper(Integer.MIN_VALUE, 60));
         CHECKS.refused("paper of -1", () -> d.paper(0, -1));
         CHECKS.refused("paper of 301", () -> d.paper(0, 301));
-        busy("wrong papers", d);
+        Desks.busy(CHECKS, "wrong papers", d);
         CHECKS.due("paper 8", 0, () -> d.paper(8, 300));
-        allGone("paper 8", d);
+        Desks.allGone(CHECKS, "paper 8", d);
         CHECKS.due("paper 8 again", 300, () -> d.paper(8, 0));
         CHECKS.due("paper 8 not held", 2, () -> d.count(0));
         CHECKS.due("paper 8 once more", 0, () -> d.paper(8, 0));
-        ExamDesk same = busyOffice();
+        ExamDesk same = Desks.busyOffice();
         CHECKS.due("paper with the same minutes", 60, () -> same.paper(0, 60));
-        allGone("paper with the same minutes", same);
+        Desks.allGone(CHECKS, "paper with the same minutes", same);
     }
 
     private static void session() {
-        ExamDesk d = busyOffice();
+        ExamDesk d = Desks.busyOffice();
         CHECKS.missing("session -1", () -> d.session(-1, 60));
         CHECKS.missing("session 6", () -> d.session(6, 60));
         CHECKS.missing("session 6, and wrong minutes", () -> d.session(6, -1));
         CHECKS.refused("session of -1", () -> d.session(2, -1));
         CHECKS.refused("session of 301", () -> d.session(2, 301));
-        busy("wrong sessions", d);
+        Desks.busy(CHECKS, "wrong sessions", d);
         CHECKS.due("session 5", 0, () -> d.session(5, 300));
-        allGone("session 5", d);
+        Desks.allGone(CHECKS, "session 5", d);
         CHECKS.due("session 5 again", 300, () -> d.session(5, 1));
         CHECKS.due("session 5 once more", 1, () -> d.session(5, 0));
-        ExamDesk same = busyOffice();
+        ExamDesk same = Desks.busyOffice();
         CHECKS.due("session with the same minutes", 60, () -> same.session(2, 60));
-        allGone("session with the same minutes", same);
+        Desks.allGone(CHECKS, "session with the same minutes", same);
     }
 
     private static void enrol() {
-        ExamDesk d = busyOffice();
+        ExamDesk d = Desks.busyOffice();
         CHECKS.missing("enrol -1", () -> d.enrol(-1, 0, true));
         CHECKS.missing("enrol 40", () -> d.enrol(40, 0, true));
         CHECKS.missing("enrol for -1", () -> d.enrol(0, -1, true));
         CHECKS.missing("enrol for 9", () -> d.enrol(0, 9, true));
         CHECKS.due("enrol as it was", false, () -> d.enrol(10, 0, true));
         CHECKS.due("enrol as it was not", false, () -> d.enrol(10, 1, false));
-        busy("no enrolment", d);
+        Desks.busy(CHECKS, "no enrolment", d);
         CHECKS.due("enrol", true, () -> d.enrol(39, 8, true));
-        allGone("enrol for a paper that is not held", d);
+        Desks.allGone(CHECKS, "enrol for a paper that is not held", d);
         CHECKS.due("enrolments", 5, () -> d.count(1));
         CHECKS.due("enrol twice", false, () -> d.enrol(39, 8, true));
         CHECKS.due("enrol no more", true, () -> d.enrol(39, 8, false));
         CHECKS.due("enrolments again", 4, () -> d.count(1));
-        ExamDesk less = busyOffice();
+        ExamDesk less = Desks.busyOffice();
         CHECKS.due("one less", true, () -> less.enrol(10, 0, false));
-        allGone("one less", less);
+        Desks.allGone(CHECKS, "one less", less);
     }
 
     private static void extra() {
-        ExamDesk d = busyOffice();
+        ExamDesk d = Desks.busyOffice();
         CHECKS.missing("extra -1", () -> d.extra(-1, true));
         CHECKS.missing("extra 40", () -> d.extra(40, true));
         CHECKS.due("extra as it was", false, () -> d.extra(13, true));
         CHECKS.due("extra", true, () -> d.extra(10, true));
         CHECKS.due("extra twice", false, () -> d.extra(10, true));
         CHECKS.due("extra no more", true, () -> d.extra(13, false));
-        busy("extra time", d);
+        Desks.busy(CHECKS, "extra time", d);
         CHECKS.due("extra, seated as before", 0, () -> d.where(10, 2));
         CHECKS.due("extra, nobody to seat", 0, () -> d.seat(2));
         CHECKS.due("no extra, seated as before", 200, () -> d.leave(13, 2));
@@ -202,7 +154,7 @@ public final class PromiseTest {
     }
 
     private static void rule() {
-        ExamDesk d = busyOffice();
+        ExamDesk d = Desks.busyOffice();
         CHECKS.missing("rule -1", () -> d.rule(-1, 0, 1, true));
         CHECKS.missing("rule 3", () -> d.rule(3, 0, 1, true));
         CHECKS.missing("rule 3 of one", () -> d.rule(3, 1, 1, true));
@@ -217,9 +169,9 @@ public final class PromiseTest {
             CHECKS.refused("no rule of one", () -> d.rule(k, 1, 1, false));
             CHECKS.due("no rule", false, () -> d.rule(k, 0, 1, false));
         }
-        busy("no rules", d);
+        Desks.busy(CHECKS, "no rules", d);
         CHECKS.due("together", true, () -> d.rule(TOGETHER, 0, 1, true));
-        allGone("together", d);
+        Desks.allGone(CHECKS, "together", d);
         CHECKS.due("together, turned", false, () -> d.rule(TOGETHER, 1, 0, true));
         CHECKS.due("not together, turned", true, () -> d.rule(TOGETHER, 1, 0, false));
         CHECKS.due("not together", false, () -> d.rule(TOGETHER, 0, 1, false));
@@ -236,36 +188,36 @@ public final class PromiseTest {
         CHECKS.due("the turned one stays", 3, () -> d.planned(0));
         for (int kind = 0; kind < 3; kind++) {
             int k = kind;
-            ExamDesk more = busyOffice();
+            ExamDesk more = Desks.busyOffice();
             CHECKS.due("a rule", true, () -> more.rule(k, 7, 8, true));
-            allGone("a rule of papers that are not held", more);
+            Desks.allGone(CHECKS, "a rule of papers that are not held", more);
             more.plan();
             CHECKS.due("no rule", true, () -> more.rule(k, 7, 8, false));
-            allGone("a rule that goes", more);
+            Desks.allGone(CHECKS, "a rule that goes", more);
         }
     }
 
     private static void fix() {
-        ExamDesk d = busyOffice();
+        ExamDesk d = Desks.busyOffice();
         CHECKS.missing("fix -1", () -> d.fix(-1, 0));
         CHECKS.missing("fix 9", () -> d.fix(9, 0));
         CHECKS.missing("fix in -2", () -> d.fix(0, -2));
         CHECKS.missing("fix in 6", () -> d.fix(0, 6));
-        busy("wrong fixes", d);
+        Desks.busy(CHECKS, "wrong fixes", d);
         CHECKS.due("fix", NONE, () -> d.fix(0, 3));
-        allGone("fix", d);
+        Desks.allGone(CHECKS, "fix", d);
         CHECKS.due("fixed plan", 1, d::plan);
         CHECKS.due("fixed paper", 3, () -> d.planned(0));
         CHECKS.due("the other joins it", 3, () -> d.planned(1));
         CHECKS.due("fix as it was", 3, () -> d.fix(0, 3));
-        allGone("fix as it was", d);
+        Desks.allGone(CHECKS, "fix as it was", d);
         CHECKS.due("fix in a closed session", 3, () -> d.fix(0, 5));
         CHECKS.due("no plan", NONE, d::plan);
         CHECKS.due("fix in session 0", 5, () -> d.fix(0, 0));
         CHECKS.due("fixed no more", 0, () -> d.fix(0, NONE));
         CHECKS.due("a plan", 1, d::plan);
         CHECKS.due("still not fixed", NONE, () -> d.fix(0, NONE));
-        allGone("no fix as it was", d);
+        Desks.allGone(CHECKS, "no fix as it was", d);
         CHECKS.due("fix what is not held", NONE, () -> d.fix(8, 5));
         CHECKS.due("does not matter", 1, d::plan);
     }
@@ -289,32 +241,12 @@ public final class PromiseTest {
         CHECKS.missing("clash with 9", () -> d.clash(0, 9));
     }
 
-    private static ExamDesk withSessions(int papers, int sessions) {
-        ExamDesk d = new ExamDesk();
-        for (int p = 0; p < papers; p++) {
-            d.paper(p, 60);
-        }
-        for (int s = 0; s < sessions; s++) {
-            d.session(s, 60);
-        }
-        return d;
-    }
-
-    private static String planOf(ExamDesk d) {
-        StringBuilder all = new StringBuilder();
-        all.append(d.plan()).append(':');
-        for (int p = 0; p < 9; p++) {
-            all.append(d.planned(p) == NONE ? "-" : String.valueOf(d.planned(p)));
-        }
-        return all.toString();
-    }
-
     private static void planOfFewest() {
         ExamDesk d = new ExamDesk();
-        CHECKS.due("plan of nothing", "0:---------", () -> planOf(d));
+        CHECKS.due("plan of nothing", "0:---------", () -> Desks.planOf(d));
         CHECKS.due("it is a plan", 0, () -> d.seat(0));
         d.paper(4, 60);
-        CHECKS.due("no session", "-1:---------", () -> planOf(d));
+        CHECKS.due("no session", "-1:---------", () -> Desks.planOf(d));
         CHECKS.illState("it is none", () -> d.seat(0));
         // Paper 0 alone would be in session 0, yet only session 5 has time for both.
         ExamDesk fewer = new ExamDesk();
@@ -322,10 +254,10 @@ public final class PromiseTest {
         fewer.paper(1, 90);
         fewer.session(0, 60);
         fewer.session(5, 90);
-        CHECKS.due("one session is fewer", "1:55-------", () -> planOf(fewer));
+        CHECKS.due("one session is fewer", "1:55-------", () -> Desks.planOf(fewer));
         fewer.rule(APART, 0, 1, true);
-        CHECKS.due("two, if they are apart", "2:05-------", () -> planOf(fewer));
-        ExamDesk busy = busyOffice();
+        CHECKS.due("two, if they are apart", "2:05-------", () -> Desks.planOf(fewer));
+        ExamDesk busy = Desks.busyOffice();
         CHECKS.due("plan once more", 1, busy::plan);
         CHECKS.due("seats go", 0, () -> busy.count(3));
         CHECKS.due("a seat goes", NONE, () -> busy.where(10, 2));
@@ -336,18 +268,18 @@ public final class PromiseTest {
     }
 
     private static void planInOrder() {
-        ExamDesk d = withSessions(4, 6);
+        ExamDesk d = Desks.withSessions(4, 6);
         d.enrol(5, 1, true);
         d.enrol(5, 2, true);
-        CHECKS.due("low sessions for low papers", "2:0010-----", () -> planOf(d));
+        CHECKS.due("low sessions for low papers", "2:0010-----", () -> Desks.planOf(d));
         d.rule(BEFORE, 2, 0, true);
-        CHECKS.due("paper 0 first that can be", "2:1100-----", () -> planOf(d));
+        CHECKS.due("paper 0 first that can be", "2:1100-----", () -> Desks.planOf(d));
         d.fix(3, 5);
-        CHECKS.due("with one that is fixed", "2:5505-----", () -> planOf(d));
+        CHECKS.due("with one that is fixed", "2:5505-----", () -> Desks.planOf(d));
         d.rule(BEFORE, 3, 1, true);
-        CHECKS.due("none behind the last", "-1:---------", () -> planOf(d));
+        CHECKS.due("none behind the last", "-1:---------", () -> Desks.planOf(d));
         d.fix(3, 3);
-        CHECKS.due("two meet there, two behind", "2:4433-----", () -> planOf(d));
+        CHECKS.due("two meet there, two behind", "2:4433-----", () -> Desks.planOf(d));
     }
 
     private static void planByMinutes() {
@@ -356,28 +288,28 @@ public final class PromiseTest {
         d.paper(8, 1);
         d.session(1, 299);
         d.session(4, 300);
-        CHECKS.due("just enough", "1:4-------4", () -> planOf(d));
+        CHECKS.due("just enough", "1:4-------4", () -> Desks.planOf(d));
         d.rule(BEFORE, 8, 0, true);
-        CHECKS.due("each where it fits", "2:4-------1", () -> planOf(d));
+        CHECKS.due("each where it fits", "2:4-------1", () -> Desks.planOf(d));
         d.session(4, 299);
         CHECKS.due("a minute short", NONE, d::plan);
         d.paper(0, 299);
-        CHECKS.due("a minute less", "2:4-------1", () -> planOf(d));
+        CHECKS.due("a minute less", "2:4-------1", () -> Desks.planOf(d));
         d.session(1, 0);
         CHECKS.due("closed", NONE, d::plan);
     }
 
     private static void planByRules() {
-        ExamDesk d = withSessions(3, 6);
+        ExamDesk d = Desks.withSessions(3, 6);
         d.rule(TOGETHER, 0, 1, true);
         d.rule(TOGETHER, 1, 2, true);
         d.rule(APART, 0, 2, true);
         CHECKS.due("together and apart", NONE, d::plan);
         d.paper(1, 0);
-        CHECKS.due("what is not held binds nobody", "2:0-1------", () -> planOf(d));
+        CHECKS.due("what is not held binds nobody", "2:0-1------", () -> Desks.planOf(d));
         d.paper(1, 60);
         d.rule(APART, 2, 0, false);
-        CHECKS.due("three together", "1:000------", () -> planOf(d));
+        CHECKS.due("three together", "1:000------", () -> Desks.planOf(d));
         d.enrol(0, 0, true);
         d.enrol(0, 2, true);
         CHECKS.due("together, but they clash", NONE, d::plan);
@@ -385,44 +317,44 @@ public final class PromiseTest {
         d.rule(BEFORE, 0, 2, true);
         CHECKS.due("together, but one before the other", NONE, d::plan);
         d.rule(TOGETHER, 2, 1, false);
-        CHECKS.due("two together", "2:001------", () -> planOf(d));
+        CHECKS.due("two together", "2:001------", () -> Desks.planOf(d));
         d.rule(BEFORE, 8, 0, true);
-        CHECKS.due("before one that is not held", "2:001------", () -> planOf(d));
+        CHECKS.due("before one that is not held", "2:001------", () -> Desks.planOf(d));
         d.paper(8, 60);
-        CHECKS.due("before one that is held", "3:112-----0", () -> planOf(d));
+        CHECKS.due("before one that is held", "3:112-----0", () -> Desks.planOf(d));
         d.rule(BEFORE, 2, 8, true);
         CHECKS.due("in a ring", NONE, d::plan);
     }
 
     private static void planOfMany() {
-        ExamDesk d = withSessions(9, 6);
-        CHECKS.due("all at once", "1:000000000", () -> planOf(d));
+        ExamDesk d = Desks.withSessions(9, 6);
+        CHECKS.due("all at once", "1:000000000", () -> Desks.planOf(d));
         for (int p = 0; p < 5; p++) {
             d.rule(BEFORE, p + 1, p, true);
         }
-        CHECKS.due("six in a row", "6:543210000", () -> planOf(d));
+        CHECKS.due("six in a row", "6:543210000", () -> Desks.planOf(d));
         d.rule(BEFORE, 6, 5, true);
         CHECKS.due("seven in a row", NONE, d::plan);
-        ExamDesk clique = withSessions(9, 6);
+        ExamDesk clique = Desks.withSessions(9, 6);
         for (int p = 0; p < 6; p++) {
             clique.enrol(0, p, true);
         }
-        CHECKS.due("six that clash", "6:012345000", () -> planOf(clique));
+        CHECKS.due("six that clash", "6:012345000", () -> Desks.planOf(clique));
         clique.enrol(0, 6, true);
         CHECKS.due("seven that clash", NONE, clique::plan);
         // Lowest first puts 0 and 3 together and needs three: two sessions need 0, 2, 4 against 1, 3, 5.
-        ExamDesk crown = withSessions(6, 3);
+        ExamDesk crown = Desks.withSessions(6, 3);
         crown.rule(APART, 0, 1, true);
         crown.rule(APART, 2, 3, true);
         crown.rule(APART, 4, 5, true);
         crown.rule(APART, 0, 3, true);
         crown.rule(APART, 2, 5, true);
         crown.rule(APART, 4, 1, true);
-        CHECKS.due("two are enough", "2:010101---", () -> planOf(crown));
+        CHECKS.due("two are enough", "2:010101---", () -> Desks.planOf(crown));
     }
 
     private static void planned() {
-        ExamDesk d = office();
+        ExamDesk d = Desks.office();
         CHECKS.missing("planned -1", () -> d.planned(-1));
         CHECKS.missing("planned 9", () -> d.planned(9));
         CHECKS.due("no plan yet", NONE, () -> d.planned(0));
@@ -435,7 +367,7 @@ public final class PromiseTest {
     }
 
     private static void strain() {
-        ExamDesk d = withSessions(4, 6);
+        ExamDesk d = Desks.withSessions(4, 6);
         for (int p = 0; p < 4; p++) {
             d.enrol(7, p, true);
         }
@@ -449,34 +381,29 @@ public final class PromiseTest {
         CHECKS.due("strain", 4, d::strain);
         d.fix(2, 4);
         CHECKS.due("strain of a plan that went", 0, d::strain);
-        CHECKS.due("plan with a gap", "4:0142-----", () -> planOf(d));
+        CHECKS.due("plan with a gap", "4:0142-----", () -> Desks.planOf(d));
         CHECKS.due("strain with a gap", 2, d::strain);
         d.fix(2, 5);
         d.session(1, 0);
-        CHECKS.due("plan round a closed one", "4:0253-----", () -> planOf(d));
+        CHECKS.due("plan round a closed one", "4:0253-----", () -> Desks.planOf(d));
         CHECKS.due("a closed session parts", 1, d::strain);
         d.fix(2, 1);
         d.plan();
         CHECKS.due("no plan", 0, d::strain);
     }
 
-    private static Object makeRoom(ExamDesk d, int r, int rows, int columns, boolean extra) {
-        d.room(r, rows, columns, extra);
-        return "done";
-    }
-
     private static void room() {
-        ExamDesk d = busyOffice();
-        CHECKS.missing("room -1", () -> makeRoom(d, -1, 1, 1, false));
-        CHECKS.missing("room 4", () -> makeRoom(d, 4, 1, 1, false));
-        CHECKS.missing("room 4, and wrong rows", () -> makeRoom(d, 4, 7, 1, false));
-        CHECKS.refused("rows -1", () -> makeRoom(d, 0, -1, 1, false));
-        CHECKS.refused("rows 7", () -> makeRoom(d, 0, 7, 1, false));
-        CHECKS.refused("columns -1", () -> makeRoom(d, 0, 1, -1, false));
-        CHECKS.refused("columns 7", () -> makeRoom(d, 0, 1, 7, false));
-        busy("wrong rooms", d);
+        ExamDesk d = Desks.busyOffice();
+        CHECKS.missing("room -1", () -> Desks.makeRoom(d, -1, 1, 1, false));
+        CHECKS.missing("room 4", () -> Desks.makeRoom(d, 4, 1, 1, false));
+        CHECKS.missing("room 4, and wrong rows", () -> Desks.makeRoom(d, 4, 7, 1, false));
+        CHECKS.refused("rows -1", () -> Desks.makeRoom(d, 0, -1, 1, false));
+        CHECKS.refused("rows 7", () -> Desks.makeRoom(d, 0, 7, 1, false));
+        CHECKS.refused("columns -1", () -> Desks.makeRoom(d, 0, 1, -1, false));
+        CHECKS.refused("columns 7", () -> Desks.makeRoom(d, 0, 1, 7, false));
+        Desks.busy(CHECKS, "wrong rooms", d);
         d.block(0, 1, 2, true);
-        CHECKS.due("room 0 as it was", "done", () -> makeRoom(d, 0, 2, 3, false));
+        CHECKS.due("room 0 as it was", "done", () -> Desks.makeRoom(d, 0, 2, 3, false));
         CHECKS.due("nobody sits there", NONE, () -> d.where(10, 2));
         CHECKS.due("nobody has its seat", NONE, () -> d.who(2, 0, 0, 0));
         CHECKS.due("one sits elsewhere", 200, () -> d.where(13, 2));
@@ -486,18 +413,18 @@ public final class PromiseTest {
         CHECKS.due("no seat is blocked", true, () -> d.block(0, 1, 2, true));
         CHECKS.due("seats as before", 0, () -> d.seat(2));
         CHECKS.due("the first again", 0, () -> d.where(10, 2));
-        CHECKS.due("another room", "done", () -> makeRoom(d, 3, 6, 6, true));
+        CHECKS.due("another room", "done", () -> Desks.makeRoom(d, 3, 6, 6, true));
         CHECKS.due("seats stay", 4, () -> d.count(3));
         CHECKS.due("its last seat", NONE, () -> d.who(0, 3, 5, 5));
-        CHECKS.due("no room", "done", () -> makeRoom(d, 3, 0, 6, true));
+        CHECKS.due("no room", "done", () -> Desks.makeRoom(d, 3, 0, 6, true));
         CHECKS.missing("no seat", () -> d.who(0, 3, 0, 0));
         CHECKS.due("watched anew", true, () -> d.watch(2));
-        CHECKS.due("room 1", "done", () -> makeRoom(d, 1, 0, 0, false));
+        CHECKS.due("room 1", "done", () -> Desks.makeRoom(d, 1, 0, 0, false));
         CHECKS.due("all watches go again", 0, () -> d.count(4));
     }
 
     private static void block() {
-        ExamDesk d = office();
+        ExamDesk d = Desks.office();
         CHECKS.missing("block in -1", () -> d.block(-1, 0, 0, true));
         CHECKS.missing("block in 4", () -> d.block(4, 0, 0, true));
         CHECKS.missing("block in no rows", () -> d.block(1, 0, 0, true));
@@ -521,7 +448,7 @@ public final class PromiseTest {
         CHECKS.due("left", true, () -> d.block(0, 0, 1, true));
         d.seat(2);
         CHECKS.due("seated anew, not in front of the same", 12, () -> d.where(10, 2));
-        ExamDesk two = office();
+        ExamDesk two = Desks.office();
         two.rule(BEFORE, 0, 1, true);
         two.plan();
         two.seat(3);
@@ -530,7 +457,7 @@ public final class PromiseTest {
     }
 
     private static void seat() {
-        ExamDesk d = office();
+        ExamDesk d = Desks.office();
         CHECKS.illState("seat without a plan", () -> d.seat(0));
         CHECKS.missing("seat -1 without a plan", () -> d.seat(-1));
         d.plan();
@@ -658,14 +585,14 @@ public final class PromiseTest {
     }
 
     private static void leave() {
-        ExamDesk d = busyOffice();
+        ExamDesk d = Desks.busyOffice();
         CHECKS.missing("leave -1", () -> d.leave(-1, 2));
         CHECKS.missing("leave 40", () -> d.leave(40, 2));
         CHECKS.missing("leave in -1", () -> d.leave(10, -1));
         CHECKS.missing("leave in 6", () -> d.leave(10, 6));
         CHECKS.due("leave elsewhere", NONE, () -> d.leave(10, 3));
         CHECKS.due("leave without a seat", NONE, () -> d.leave(0, 2));
-        busy("nobody leaves", d);
+        Desks.busy(CHECKS, "nobody leaves", d);
         CHECKS.due("leave", 2, () -> d.leave(11, 2));
         CHECKS.due("it is gone", NONE, () -> d.where(11, 2));
         CHECKS.due("its seat is free", NONE, () -> d.who(2, 0, 0, 2));
@@ -681,7 +608,7 @@ public final class PromiseTest {
     }
 
     private static void where() {
-        ExamDesk d = busyOffice();
+        ExamDesk d = Desks.busyOffice();
         CHECKS.missing("where -1", () -> d.where(-1, 2));
         CHECKS.missing("where 40", () -> d.where(40, 2));
         CHECKS.missing("where in -1", () -> d.where(10, -1));
@@ -704,7 +631,7 @@ public final class PromiseTest {
     }
 
     private static void who() {
-        ExamDesk d = busyOffice();
+        ExamDesk d = Desks.busyOffice();
         CHECKS.due("who", 12, () -> d.who(2, 0, 0, 1));
         CHECKS.due("nobody", NONE, () -> d.who(2, 0, 1, 2));
         CHECKS.due("nobody in another session", NONE, () -> d.who(3, 0, 0, 1));
@@ -721,7 +648,7 @@ public final class PromiseTest {
     }
 
     private static void most() {
-        ExamDesk d = busyOffice();
+        ExamDesk d = Desks.busyOffice();
         CHECKS.missing("most -1", () -> d.most(-1, 1));
         CHECKS.missing("most 10", () -> d.most(10, 1));
         CHECKS.missing("most 10, and wrong sessions", () -> d.most(10, 7));
@@ -731,14 +658,14 @@ public final class PromiseTest {
         CHECKS.due("most again", 0, () -> d.most(4, 2));
         CHECKS.due("most of none", 0, () -> d.most(9, 1));
         CHECKS.due("most once more", 2, () -> d.most(4, 0));
-        busy("most", d);
+        Desks.busy(CHECKS, "most", d);
         CHECKS.due("who watched may not now", true, () -> d.watch(2));
         CHECKS.due("the others do", 7, () -> d.watcher(2, 0, 0));
         CHECKS.due("the last too", 9, () -> d.watcher(2, 2, 0));
     }
 
     private static void own() {
-        ExamDesk d = busyOffice();
+        ExamDesk d = Desks.busyOffice();
         CHECKS.missing("own -1", () -> d.own(-1, 0, true));
         CHECKS.missing("own 10", () -> d.own(10, 0, true));
         CHECKS.missing("own paper -1", () -> d.own(4, -1, true));
@@ -747,7 +674,7 @@ public final class PromiseTest {
         CHECKS.due("own", true, () -> d.own(4, 1, true));
         CHECKS.due("own twice", false, () -> d.own(4, 1, true));
         CHECKS.due("another's own", true, () -> d.own(9, 8, true));
-        busy("own", d);
+        Desks.busy(CHECKS, "own", d);
         CHECKS.due("the other room has none of it", true, () -> d.watch(2));
         CHECKS.due("so they change", 7, () -> d.watcher(2, 0, 0));
         CHECKS.due("places", 4, () -> d.watcher(2, 2, 0));
@@ -757,7 +684,7 @@ public final class PromiseTest {
     }
 
     private static void watch() {
-        ExamDesk d = office();
+        ExamDesk d = Desks.office();
         CHECKS.missing("watch -1", () -> d.watch(-1));
         CHECKS.missing("watch 6", () -> d.watch(6));
         CHECKS.due("nothing to watch", true, () -> d.watch(2));
@@ -809,38 +736,26 @@ public final class PromiseTest {
         return d;
     }
 
-    private static String watchersOf(ExamDesk d, int session) {
-        StringBuilder all = new StringBuilder();
-        for (int r = 0; r < 4; r++) {
-            for (int k = 0; k < 10; k++) {
-                if (d.watcher(session, r, k) != NONE) {
-                    all.append(r).append('/').append(d.watcher(session, r, k)).append(' ');
-                }
-            }
-        }
-        return all.toString().trim();
-    }
-
     private static void watchLeavesEnough() {
         ExamDesk d = threeRooms();
         CHECKS.due("watch by rooms", true, () -> d.watch(0));
-        CHECKS.due("by rooms", "0/1 1/2 2/3", () -> watchersOf(d, 0));
+        CHECKS.due("by rooms", "0/1 1/2 2/3", () -> Desks.watchersOf(d, 0));
         d.own(2, 2, true);
         d.own(3, 2, true);
         CHECKS.due("room 2 wants the first", true, () -> d.watch(0));
-        CHECKS.due("it is left", "0/2 1/3 2/1", () -> watchersOf(d, 0));
+        CHECKS.due("it is left", "0/2 1/3 2/1", () -> Desks.watchersOf(d, 0));
         d.own(2, 0, true);
         CHECKS.due("room 0 wants the last", true, () -> d.watch(0));
-        CHECKS.due("that is left too", "0/3 1/2 2/1", () -> watchersOf(d, 0));
+        CHECKS.due("that is left too", "0/3 1/2 2/1", () -> Desks.watchersOf(d, 0));
         d.own(3, 0, true);
         CHECKS.due("one for two rooms", false, () -> d.watch(0));
-        CHECKS.due("nobody", "", () -> watchersOf(d, 0));
+        CHECKS.due("nobody", "", () -> Desks.watchersOf(d, 0));
         d.most(9, 6);
         CHECKS.due("the last helps", true, () -> d.watch(0));
-        CHECKS.due("where it must", "0/1 1/2 2/9", () -> watchersOf(d, 0));
+        CHECKS.due("where it must", "0/1 1/2 2/9", () -> Desks.watchersOf(d, 0));
         d.own(9, 2, true);
         CHECKS.due("not with its own", true, () -> d.watch(0));
-        CHECKS.due("elsewhere", "0/9 1/2 2/1", () -> watchersOf(d, 0));
+        CHECKS.due("elsewhere", "0/9 1/2 2/1", () -> Desks.watchersOf(d, 0));
     }
 
     private static void watchByEights() {
@@ -861,25 +776,25 @@ public final class PromiseTest {
         d.plan();
         CHECKS.due("36 sit", 0, () -> d.seat(0));
         CHECKS.due("36 need", true, () -> d.watch(0));
-        CHECKS.due("five", "1/0 1/2 1/3 1/4 1/5", () -> watchersOf(d, 0));
+        CHECKS.due("five", "1/0 1/2 1/3 1/4 1/5", () -> Desks.watchersOf(d, 0));
         for (int c = 35; c >= 32; c--) {
             d.leave(c, 0);
         }
         CHECKS.due("watches stay", 5, () -> d.count(4));
         CHECKS.due("32 need", true, () -> d.watch(0));
-        CHECKS.due("four", "1/0 1/2 1/3 1/4", () -> watchersOf(d, 0));
+        CHECKS.due("four", "1/0 1/2 1/3 1/4", () -> Desks.watchersOf(d, 0));
         for (int c = 31; c >= 9; c--) {
             d.leave(c, 0);
         }
         CHECKS.due("9 need", true, () -> d.watch(0));
-        CHECKS.due("two", "1/0 1/2", () -> watchersOf(d, 0));
+        CHECKS.due("two", "1/0 1/2", () -> Desks.watchersOf(d, 0));
         d.leave(8, 0);
         CHECKS.due("8 need", true, () -> d.watch(0));
-        CHECKS.due("one", "1/0", () -> watchersOf(d, 0));
+        CHECKS.due("one", "1/0", () -> Desks.watchersOf(d, 0));
     }
 
     private static void watcher() {
-        ExamDesk d = busyOffice();
+        ExamDesk d = Desks.busyOffice();
         CHECKS.missing("watcher in -1", () -> d.watcher(-1, 0, 0));
         CHECKS.missing("watcher in 6", () -> d.watcher(6, 0, 0));
         CHECKS.missing("watcher in room -1", () -> d.watcher(2, -1, 0));
@@ -893,7 +808,7 @@ public final class PromiseTest {
     }
 
     private static void count() {
-        ExamDesk d = busyOffice();
+        ExamDesk d = Desks.busyOffice();
         CHECKS.refused("count -1", () -> d.count(-1));
         CHECKS.refused("count 5", () -> d.count(5));
         d.most(3, 2);
@@ -920,7 +835,7 @@ public final class PromiseTest {
 
     /** The dearest plan, as often as an object is used. */
     private static void manyCalls() {
-        ExamDesk d = withSessions(9, 6);
+        ExamDesk d = Desks.withSessions(9, 6);
         d.rule(TOGETHER, 7, 8, true);
         d.rule(APART, 7, 8, true);
         for (int n = 0; n < 495; n++) {
