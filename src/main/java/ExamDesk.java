@@ -485,13 +485,16 @@ public final class ExamDesk {
             return ready;
         }
 
+        /** Tries each part of the choice but the empty one, from the whole choice downwards. */
         private void addMeetings(int placed, int session, int choice) {
-            // Each step makes the set a smaller number: all parts of the choice but the empty one.
-            for (int set = choice; set > 0; set = (set - 1) & choice) {
+            int set = choice;
+            for (int left = (1 << Integer.bitCount(choice)) - 1; left > 0; left--) {
                 int cost = best[placed] + ONE_SESSION + session * digits[set];
                 if (mayMeet(set) && cost < best[placed | set]) {
                     best[placed | set] = cost;
                 }
+                // The next lower number whose bits are all in the choice.
+                set = (set - 1) & choice;
             }
         }
 
