@@ -49,6 +49,9 @@ public final class LanguageTest {
         checks.due("rule 10, no texts joined by +", "[]", () -> found(code, "\"\\s*\\+|\\+\\s*\""));
         checks.due("rule 12, objects made in loops", "[]", () -> found(code,
                 "(?s)\\b(for|while) \\([^{]*\\{[^}]*\\bnew (?!IllegalState)"));
+        checks.due("rule 12, calls make nothing but exceptions", "[]", () -> found(code,
+                "(?m)^(?!.*throw new |.*final .* = new |        (timetable|rooms|rota) = new )"
+                        + ".*\\bnew .*$"));
     }
 
     private static List<String> found(String code, String pattern) {
